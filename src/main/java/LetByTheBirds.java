@@ -31,18 +31,15 @@ public final class LetByTheBirds {
     private final Isle image;
     /** Every question of days to come is tried here, so that no call makes an isle of its own. */
     private final Isle mind;
-    private final Tenant[] kinds;
     private final Shelf[] shelves;
     private final int[] gainsOfOne;
     private final int[] gainsOfOther;
     private boolean imageTaken;
 
     public LetByTheBirds() {
-        kinds = new Tenant[] {new Tenant(), new Boatman(), new Baker(), new Clerk(),
-            new Nurse(), new Whaler(), new Lawyer(), new Child()};
-        isle = new Isle(kinds);
-        image = new Isle(kinds);
-        mind = new Isle(kinds);
+        isle = new Isle();
+        image = new Isle();
+        mind = new Isle();
         shelves = new Shelf[SHELVES];
         for (int d = 0; d < SHELVES; d++) {
             shelves[d] = new Shelf();
@@ -678,7 +675,7 @@ public final class LetByTheBirds {
         if (refused != 0) {
             return refused;
         }
-        return kinds[shelves[d].kind].costs(shelves[d].figure);
+        return isle.kinds[shelves[d].kind].costs(shelves[d].figure);
     }
 
     public int toss(int d) {
@@ -686,7 +683,7 @@ public final class LetByTheBirds {
         if (refused != 0) {
             return refused;
         }
-        Tenant one = kinds[shelves[d].kind];
+        Tenant one = isle.kinds[shelves[d].kind];
         int figure = shelves[d].figure;
         try {
             one.fail(figure);
@@ -899,7 +896,9 @@ public final class LetByTheBirds {
 
     /** All that THE IMAGE keeps: tenants, sea, birds and the day. */
     private static final class Isle {
-        private final Tenant[] kinds;
+        /** By their numbers. */
+        final Tenant[] kinds = {new Tenant(), new Boatman(), new Baker(), new Clerk(),
+            new Nurse(), new Whaler(), new Lawyer(), new Child()};
         final int[] kind = new int[MOST_TENANTS];
         final int[] figure = new int[MOST_TENANTS];
         final int[] store = new int[MOST_TENANTS];
@@ -910,10 +909,6 @@ public final class LetByTheBirds {
         int birds = 40;
         int sea = 3;
         int day = 0;
-
-        Isle(Tenant[] kinds) {
-            this.kinds = kinds;
-        }
 
         void become(Isle other) {
             System.arraycopy(other.kind, 0, kind, 0, MOST_TENANTS);

@@ -32,6 +32,8 @@ public final class BestTest {
         Check.due("what 2", x.bestSea(1, 2), -1);
         Check.due("what -1", x.bestSea(1, -1), -1);
         Check.due("60 days on", x.bestSea(60, 1), 1);
+        // On day 10 only sea 9 gives the 8 that he owes, and one to eat.
+        Check.due("sea 9", Check.told("t0000;b99;d09;f000;w01;").bestSea(1, 0), 9);
     }
 
     private static void birdsThatDo() {
@@ -83,6 +85,10 @@ public final class BestTest {
         // 8 birds: the second can only be saved by as many as make the first poor.
         LetByTheBirds taken = Check.told("t0030;t0030;s0;b08;");
         Check.due("13 leave the first 17, less than he needs", taken.lend(0, 1), 13);
+        // Of 8 birds' fish the baker lays out 2, unless he has but 1 of them.
+        LetByTheBirds most = Check.told("t2699;t0000;s0;b08;d09;f099;f100;");
+        Check.due("99 leave the baker too poor", most.lend(0, 1), 99);
+        Check.due("one fish", Check.told("t0050;t0017;s0;").lend(0, 1), 1);
         LetByTheBirds full = Check.told("t0099;t0099;s0;b08;");
         Check.due("99 at most with them", full.lend(0, 1), -4);
         LetByTheBirds gone = Check.told("t1010;t0090;s0;d20;");

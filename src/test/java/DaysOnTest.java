@@ -56,14 +56,18 @@ public final class DaysOnTest {
         Check.due("gone now", x.goes(1), 0);
         Check.due("next of those there", x.goes(-1), 0);
         Check.due("5 days more", x.goes(0), 5);
-        x.days(5);
+        x.days(4);
+        Check.due("a day more", x.goes(0), 1);
+        Check.due("and the first to go", x.goes(-1), 0);
+        x.days(1);
         Check.due("none goes more", x.goes(-1), -4);
         Check.due("nobody on a new one", new LetByTheBirds().goes(-1), -4);
         // 70 fish: 70-18, -18, -18 leaves 16 on day 30; warned on days 40 and 50 by store 6.
         LetByTheBirds late = Check.told("t0070;s0;");
         Check.due("day 50", late.goes(0), 50);
         Check.due("80 fish: day 60", late.stores(0, 80) + late.goes(0), 70 + 60);
-        Check.due("90 fish: day 70 is too late", late.stores(0, 99) + late.goes(0), 80 - 4);
+        Check.due("80 fish: he is the first", late.goes(-1), 0);
+        Check.due("99 fish: day 70 is too late", late.stores(0, 99) + late.goes(0), 80 - 4);
     }
 
     private static void whenAllAreGone() {

@@ -166,8 +166,15 @@ public final class KindAndSeaTest {
         // The first is gone, whether he gives or not; so the second is there.
         few.stores(0, 10);
         Check.due("still both", few.two(0, 1, 10), 11);
-        // Found by trying many isles with PlainModel.
+        // Found by trying many isles with PlainModel; the second would not be so with 4 in place of 5.
         Check.due("no pair", Check.told("s3;b24;t3174;t5203;t5445;t1786;w01;w11;w31;").two(0, 1, 60), -4);
+        Check.due("no pair", Check.told("s2;b18;t3716;t5116;t0658;t0692;t0760;t4511;t0714;w01;w11;w21;w41;")
+            .two(0, 1, 30), -4);
+        // The whaler who gives is gone on day 10, and without his frightening five bakers on day 30:
+        // 1 and 5 are more than the 5 that he has if he keeps his store. With 6 for being there they were not.
+        Check.due("gone for five others", Check.told("s2;b13;t5012;t2750;t2650;t2650;t2650;t2650;t2650;w01;")
+            .two(0, 1, 30), 11);
+        Check.due("one day", x.two(0, 1, 1), 11);
     }
 
     private static void twoRefused() {

@@ -63,7 +63,7 @@ public final class LedgerTest {
     }
 
     private static void years() {
-        // Seed 0: 12345, then 0 * .. by its number: draws below 10 and 100.
+        // From seed 0 the first z is 12345, and its draw 0.
         int z1 = 12345;
         int sea = ((z1 & 0x7fffffff) / 65536) % 10;
         int z2 = z1 * 1103515245 + 12345;
