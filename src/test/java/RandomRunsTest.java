@@ -2,14 +2,18 @@ import java.util.Random;
 
 /** All promises at once: runs of random calls, each answer held against PlainModel's. */
 public final class RandomRunsTest {
-    private static final int RUNS = 400;
+    private static final int RUNS = 600;
+    /** An object is used for at most 512 calls. */
     private static final int CALLS = 512;
+    /** The most calls by which a text or a row is written. */
+    private static final int CALLS_OF_A_ROW = 101;
     private static final int NAMES = 36;
 
     private final Random random;
     private final LetByTheBirds x = new LetByTheBirds();
     private final PlainModel model = new PlainModel();
     private String call = "";
+    private int made = 0;
 
     private RandomRunsTest(long seed) {
         random = new Random(seed);
@@ -20,9 +24,10 @@ public final class RandomRunsTest {
         for (int run = 0; run < RUNS; run++) {
             RandomRunsTest r = new RandomRunsTest(run);
             r.settle();
-            for (int c = 0; c < CALLS; c++) {
+            while (r.made < CALLS) {
                 r.oneCall(run, goodAnswers);
             }
+            Check.due("calls of one object", r.made, CALLS);
         }
         for (int name = 0; name < NAMES; name++) {
             Check.due("call " + name + " was answered often", goodAnswers[name] > RUNS / 4 ? 1 : 0, 1);
@@ -36,9 +41,10 @@ public final class RandomRunsTest {
         if (name == 6 && random.nextInt(3) > 0) {
             name = 27;
         }
-        if (name == 0 && random.nextInt(2) == 0) {
+        boolean canWrite = made + CALLS_OF_A_ROW < CALLS;
+        if (canWrite && name == 0 && random.nextInt(2) == 0) {
             writeText();
-        } else if (name == 19 || name == 20 || name == 24 || name == 25) {
+        } else if (canWrite && (name == 19 || name == 20 || name == 24 || name == 25)) {
             writeTrueRow(name);
         }
         long[] both = name < 19 ? early(name) : late(name);
@@ -46,9 +52,12 @@ public final class RandomRunsTest {
         goodAnswers[name] += both[1] > -1 && both[1] != 1000000001L ? 1 : 0;
     }
 
-    /** Mostly low .. high, at times a little or far out of it. */
+    /** Mostly low .. high, often at its ends, at times a little or far out of it. */
     private int in(int low, int high) {
         int how = random.nextInt(60);
+        if (how > 55) {
+            return how % 2 == 0 ? low : high;
+        }
         if (how == 0) {
             return low - 1;
         }
@@ -71,6 +80,7 @@ public final class RandomRunsTest {
             b.append(a).append(' ');
         }
         call = b.append(')').toString();
+        made++;
         return new long[] {got, want};
     }
 
@@ -150,6 +160,7 @@ public final class RandomRunsTest {
     }
 
     private void put(int d, int sort, int[] values) {
+        made += 1 + values.length;
         x.row(d, sort, values.length);
         model.row(d, sort, values.length);
         for (int i = 0; i < values.length; i++) {
@@ -160,6 +171,9 @@ public final class RandomRunsTest {
 
     /** Most runs begin with some tenants and an image of them, so that there is much to ask. */
     private void settle() {
+        if (random.nextInt(4) == 0) {
+            toTheLastDays();
+        }
         int tenants = random.nextInt(8);
         for (int t = 0; t < tenants; t++) {
             int kind = random.nextInt(8);
@@ -168,8 +182,17 @@ public final class RandomRunsTest {
             x.keep(0, 1, kind, figure);
             model.keep(0, 1, kind, figure);
             Check.due("settle", x.comes(0, store), model.comes(0, store));
+            made += 2;
         }
         Check.due("image", x.image(), model.image());
+        made++;
+    }
+
+    private void toTheLastDays() {
+        for (int i = 0; i < 16; i++) {
+            Check.due("days(60)", x.days(60), model.days(60));
+            made++;
+        }
     }
 
     /** A text on shelf 6 or 7, mostly of a right form. */
