@@ -39,6 +39,10 @@ public final class BestEdgesTest {
         for (int store = 0; store <= 9; store++) {
             eve.with("stores(0, " + store + ")").asks("bestSea(1, 0)", 9 - store).asks("bestSea(1, 1)", 1);
         }
+        // A boatman with 3 has his 11 by sea 9; with 2 he would by sea 10, which there is not.
+        Scene boatman = Scene.isle("b99;d09;t1003;w01;");
+        boatman.asks("bestSea(1, 0)", 9).asks("bestSea(1, 1)", 1);
+        boatman.with("stores(0, 2)").asks("bestSea(1, 0)", 0).asks("bestSea(1, 1)", 0);
         Scene.isle("t7000;t7000;").asks("bestSea(60, 0)", 0).asks("bestSea(60, 1)", 2);
         Scene.fresh().asks("bestSea(60, 0)", 0).asks("bestSea(60, 1)", 0);
         // By 0 birds nothing is wanted by any sea: all are warned.
@@ -202,8 +206,10 @@ public final class BestEdgesTest {
         Scene.isle(EVE + "b40;t7000;t7009;t0000;t0000;w21;w31;").asks("send(1, 1)", 12);
         Scene.isle(EVE + "b40;t0000;t0000;t7009;w01;w11;").asks("send(1, 1)", 2);
         Scene.isle(EVE + "b40;t7000;t7000;t7000;t7000;t7000;t7009;t0000;w61;").asks("send(1, 1)", 56);
-        // Most count ahead of the first: 0 and 2 save none, 1 and 2 one, 1 and 3 the boatman.
         Scene.isle(EVE + "b40;t7008;t7012;t7000;t1000;w31;").asks("send(1, 1)", 13);
+        // Most count ahead of the first: a boatman with the child's 9 lays out nothing and leaves the last one's 8
+        // to the birds; with the poor one's 0 he does too, and the poor one has what he owes.
+        Scene.isle(EVE + "b16;t1012;t7009;t0000;t0050;w21;w31;").asks("then(1, 0)", 3).asks("send(1, 1)", 2);
     }
 
     /** TURN is of TENANTS THERE: one GONE has nothing to change. */

@@ -213,6 +213,8 @@ public final class RowEdgesTest {
     private static void twoCountAllGone() {
         // By giving, the first is too poor on the eve: 5 less for him, unless the five behind him go by it.
         Scene.isle("s2;b13;t5012;t2750;t2650;t2650;t2650;t2650;t2650;w01;").asks("two(0, 1, 30)", 11);
+        // With four of them it is as much: neither has more by another choice.
+        Scene.isle("s2;b13;t5012;t2750;t2650;t2650;t2650;t2650;w01;").asks("two(0, 1, 30)", 1);
         // One GONE before counts in all pairs alike.
         Scene gone = Scene.isle("t0000;s0;d29;b40;t0017;t0016;w11;w21;");
         gone.asks("count(4)", 6).asks("two(1, 2, 1)", 10);
@@ -226,6 +228,9 @@ public final class RowEdgesTest {
         eve.with("stores(0, 17)").asks("two(0, 1, 1)", 10);
         eve.with("stores(0, 17)", "stores(1, 17)").asks("two(0, 1, 1)", 11);
         Scene.isle("s3;b24;t3174;t5203;t5445;t1786;w01;w11;w31;").asks("two(0, 1, 60)", -4);
+        // As much by either choice: who gives has 1 for it, who keeps it pays, and has 1 for the last one's going.
+        Scene same = Scene.isle(EVE + "b08;t0016;t7000;t0050;w21;");
+        same.asks("two(0, 1, 1)", 1).asks("two(1, 0, 1)", 10);
     }
 
     /** "-1 (one twice), -3 either is GONE." */
@@ -315,6 +320,7 @@ public final class RowEdgesTest {
         Scene two = Scene.isle("t0099;t0098;");
         two.asks("share(0, 0)", 99).asks("share(0, 1)", 197).asks("share(1, 0)", 98).asks("share(1, 1)", 197);
         Scene.isle("t0050;").asks("share(0, 0)", 1).asks("share(0, 1)", 1);
+        Scene.isle("t0001;").asks("share(0, 0)", 1).asks("share(0, 1)", 1);
         Scene.isle("t0001;t0099;").asks("share(0, 0)", 1).asks("share(0, 1)", 100);
     }
 

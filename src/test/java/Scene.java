@@ -132,6 +132,10 @@ final class Scene {
         }
         User user = new User(this);
         Check.dueSame(this + call, user.call(call), want);
+        // Other days, another sea and other birds are in mind behind these.
+        user.call("then(60, 0)");
+        user.call("years(1, 7, 1)");
+        Check.dueSame(this + call + ", asked once more", user.call(call), want);
         Check.dueSame("all behind " + this + call, allTold(user), toldBehind);
         return this;
     }

@@ -155,6 +155,7 @@ public final class ShelfEdgesTest {
         Scene full = Scene.fresh().holdsRow(0, 2, 1, 2, 3, 4, 5);
         Scene again = full.does("row(0, 2, 5)", 0);
         Scene behind = full.holdsNothing(0).does("row(0, 0, 5)", 0);
+        Scene.fresh().with("row(0, 2, 100)", "put(0, 99, 7)").does("row(0, 2, 100)", 0).asks("element(0, 99)", 0);
         Scene lessThenMore = full.does("row(0, 2, 2)", 0).does("row(0, 2, 5)", 0);
         for (int i = 0; i < 5; i++) {
             again.asks("element(0, " + i + ")", 0);
@@ -272,6 +273,10 @@ public final class ShelfEdgesTest {
         shelf.refused("copy(1, 0, 7, 0, 1)", -12).refused("copy(0, 0, 1, 0, 1)", -12).refused("copy(1, 0, 1, 0, 1)", -12);
         shelf.refused("copy(0, 0, 2, 0, 1)", -12).refused("copy(2, 0, 0, 0, 1)", -12);
         shelf.refused("copy(0, 0, 3, 0, 1)", -12).refused("copy(3, 0, 2, 0, 1)", -12);
+        // A shelf that holds one held a row of that sort ahead of it.
+        Scene was = rows().holdsRow(1, 1, 1, 2, 3).holdsOne(1, 0, 0);
+        was.refused("copy(1, 0, 7, 0, 1)", -12).refused("copy(0, 0, 1, 0, 1)", -12).refused("copy(1, 0, 1, 0, 1)", -12);
+        shelf.refused("copy(1, 0, 2, 0, 1)", -12).refused("copy(2, 0, 1, 0, 1)", -12);
         // A shelf that is none ahead of one that holds nothing, that ahead of one of another kind, that of a place.
         shelf.refused("copy(5, 0, 8, 0, 1)", -1).refused("copy(8, 0, 5, 0, 1)", -1).refused("copy(1, 0, 8, 0, 1)", -1);
         shelf.refused("copy(0, -1, 8, 0, 1)", -1).refused("copy(-1, 0, 0, 0, -1)", -1);

@@ -48,7 +48,9 @@ public final class TermsEdgesTest {
         seven.asks("count(0)", 7).asks("count(4)", 127).asks("tenant(6, 2)", 33).asks("tenant(6, 0)", 6);
         seven.refused("comes(3, 33)", -2).refused("tenant(7, 0)", -1).faults("t0010;", -2000);
         Scene told = six.comesTrue("t6533;");
-        told.asks("tenant(6, 2)", 33).refused("comes(3, 33)", -2);
+        told.asks("tenant(6, 2)", 33).asks("tenant(6, 1)", 5).asks("tenant(6, 0)", 6).refused("comes(3, 33)", -2);
+        Scene back = seven.with("image()", "stores(6, 1)", "restore()");
+        back.asks("tenant(6, 2)", 33).asks("tenant(6, 1)", 5).asks("tenant(6, 0)", 6).asks("tenant(6, 4)", 1);
         Scene.fresh().holdsOne(3, 6, 5).does("comes(3, 0)", 0).does("comes(3, 1)", 1).asks("tenant(1, 2)", 1);
         // Who is GONE still has his number: there is no more room then.
         Scene gone = Scene.isle("t0000;t0000;t0000;t0000;t0000;t0000;t0000;s0;d20;").holdsOne(3, 6, 5);
